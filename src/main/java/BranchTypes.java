@@ -452,8 +452,9 @@ public final class BranchTypes {
             return c >= '0' && c <= '9' ? c - '0' : NONE;
         }
 
+        /** The position behind the expression that begins here: never before it, so that whoever goes on gets on. */
         int behind(int at) {
-            return at >= 0 && at < length ? ends[at] : length;
+            return at >= 0 && at < length ? Math.max(ends[at], at + 1) : length;
         }
 
         /** Notes the fault of this text; answers NONE, which stands for "no end" and "no type" where a fault is met. */
@@ -1044,8 +1045,8 @@ public final class BranchTypes {
         Unifier(Types types, Walk walk, int room) {
             this.types = types;
             this.walk = walk;
-            left = new int[3 * room];
-            right = new int[3 * room];
+            left = new int[2 * room];
+            right = new int[2 * room];
             bucket = new int[room];
             next = new int[room];
         }
