@@ -168,11 +168,23 @@ public final class BranchTypes {
             return bad();
         }
         program.empty();
-        switch (k) {
-            case 1: declareEvaluator(); break;
-            case 2: declareEquality(); break;
-            case 3: declareLists(); break;
-            default: break;
+        if (k == 1) {
+            prepareConstructor("i,:i");
+            prepareConstructor("d0i,:b");
+            prepareConstructor("d0b,d0u,d0u,:u");
+            prepareConstructor("d0u,d0v,:puv");
+            prepareConstructor("d0puv,:u");
+            prepareFunction("d0u,:u", "Ma{0b1=G0b02?G0bG0cG0d3PG0bG0c4LG0b}");
+        } else if (k == 2) {
+            prepareConstructor(":puu");
+            prepareFunction("d0puv,u,:v", "Ma{0b}");
+            prepareFunction("d0puv,:d0pvu", "Ma{0C0}");
+            prepareFunction("d0puv,d0pvw,:d0puw", "Ma{0b}");
+        } else if (k == 3) {
+            prepareConstructor(":i");
+            prepareConstructor("i,d0u,:piu");
+            prepareFunction("d0piu,:i", "Ma{1b}");
+            prepareFunction("d0u,d0u,:d0u", "Ma{0C01Mb{1C1+ceG1df}}");
         }
         return program.constructorCount;
     }
@@ -387,29 +399,6 @@ public final class BranchTypes {
         }
     }
 
-    private void declareEvaluator() {
-        prepareConstructor("i,:i");
-        prepareConstructor("d0i,:b");
-        prepareConstructor("d0b,d0u,d0u,:u");
-        prepareConstructor("d0u,d0v,:puv");
-        prepareConstructor("d0puv,:u");
-        prepareFunction("d0u,:u", "Ma{0b1=G0b02?G0bG0cG0d3PG0bG0c4LG0b}");
-    }
-
-    private void declareEquality() {
-        prepareConstructor(":puu");
-        prepareFunction("d0puv,u,:v", "Ma{0b}");
-        prepareFunction("d0puv,:d0pvu", "Ma{0C0}");
-        prepareFunction("d0puv,d0pvw,:d0puw", "Ma{0b}");
-    }
-
-    private void declareLists() {
-        prepareConstructor(":i");
-        prepareConstructor("i,d0u,:piu");
-        prepareFunction("d0piu,:i", "Ma{1b}");
-        prepareFunction("d0u,d0u,:d0u", "Ma{0C01Mb{1C1+ceG1df}}");
-    }
-
     private static int arityOf(int head) {
         if (head == PAIR) {
             return 2;
@@ -448,8 +437,8 @@ public final class BranchTypes {
         }
 
         int digitAt(int at) {
-            int c = byteAt(at);
-            return c >= '0' && c <= '9' ? c - '0' : NONE;
+            boolean isDigit = at >= 0 && at < length && bytes[at] >= '0' && bytes[at] <= '9';
+            return isDigit ? bytes[at] - '0' : NONE;
         }
 
         /** The position behind the expression that begins here: never before it, so that whoever goes on gets on. */
@@ -983,49 +972,41 @@ public final class BranchTypes {
             return root == NONE ? 0 : size[root];
         }
 
-        /** Visits what the types of a range contain; whether none of it contains a type of its own class. */
+        /**
+         * Visits what the types of a range contain; whether none of it contains a type of its own class.
+         * Goes along explicit rows, as types can be nested deeper than calls should be.
+         */
         boolean visit(int from, int to) {
             walked = 0;
             for (int x = 0; x < types.count; x++) {
                 state[x] = UNSEEN;
             }
-            boolean sound = true;
-            for (int x = from; x < to && sound; x++) {
-                int root = types.root(x);
-                sound = root == NONE || state[root] != UNSEEN || descend(root);
-            }
-            return sound;
-        }
-
-        /** Goes along explicit rows, as types can be nested deeper than calls should be. */
-        private boolean descend(int start) {
-            path[0] = start;
-            turn[0] = 0;
-            state[start] = ENTERED;
-            int top = 0;
-            for (int n = 0; n <= 3 * types.count && top >= 0; n++) {
-                int at = path[top];
-                int argument = turn[top];
-                turn[top]++;
-                if (argument == 2) {
-                    state[at] = LEFT;
-                    order[walked] = at;
+            int start = from;
+            int top = NONE;
+            for (int n = 0; n <= 4 * types.count && (top != NONE || start < to); n++) {
+                int next = NONE;
+                if (top == NONE) {
+                    next = types.root(start);
+                    start++;
+                } else if (turn[top] < 2) {
+                    int lead = types.leadAt(path[top]);
+                    next = types.root(turn[top] == 0 ? types.first[lead] : types.second[lead]);
+                    turn[top]++;
+                } else {
+                    state[path[top]] = LEFT;
+                    order[walked] = path[top];
                     walked++;
                     top--;
-                    continue;
                 }
-                int lead = types.leadAt(at);
-                int next = types.root(argument == 0 ? types.first[lead] : types.second[lead]);
-                if (next == NONE || state[next] == LEFT) {
-                    continue;
-                }
-                if (state[next] == ENTERED) {
+                if (next != NONE && state[next] == ENTERED) {
                     return false;
                 }
-                top++;
-                path[top] = next;
-                turn[top] = 0;
-                state[next] = ENTERED;
+                if (next != NONE && state[next] == UNSEEN) {
+                    top++;
+                    path[top] = next;
+                    turn[top] = 0;
+                    state[next] = ENTERED;
+                }
             }
             return true;
         }
