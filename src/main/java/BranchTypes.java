@@ -19,8 +19,10 @@ public final class BranchTypes {
     private static final int BENCH_ROOM = MAX_TYPES + MAX_SIGNATURE;
     /** A text of 100 bytes makes at most 3 types a byte; its signatures, what is left of its weight. */
     private static final int CHECK_ROOM = 3 * MAX_TEXT + (MAX_WEIGHT - MAX_TEXT) + 3 * MAX_SIGNATURE;
-    /** A nested match takes five bytes of the text, so that there are fewer branches and scopes than this. */
-    private static final int BRANCH_ROOM = 32, SCOPE_ROOM = 192, HELD_ROOM = 256;
+    /** A nested match takes five bytes of a text at least, and needs a branch. */
+    private static final int BRANCH_ROOM = 32;
+    /** A run nests 60 deep, and each level has three values at most in its scope and three that are held. */
+    private static final int SCOPE_ROOM = MAX_PARTS * (MAX_NESTING + 4), HELD_ROOM = MAX_PARTS * (MAX_NESTING + 4);
     private static final int WRITE_ROOM = (MAX_PARTS + 1) * MAX_KEPT;
 
     private final World bench = new World(BENCH_ROOM);
