@@ -1,5 +1,7 @@
 /** The class and its oracle side by side: each call goes to both, and their answers are compared. */
 final class Both {
+    /** Of the 512 calls some are left for a why, a digest and the like. */
+    private static final int LAST_CALL = 500;
     final BranchTypes x = new BranchTypes();
     final Oracle o = new Oracle();
     private final Check check;
@@ -138,16 +140,18 @@ final class Both {
         check.due("digest", x.digest(), o.digest());
     }
 
-    /** Compares the type and value of the latest run, without counting the calls: a reader would not make them all. */
+    /** Compares the type and value of the latest run, if so many calls are left: nothing is promised after 512. */
     void written() {
-        StringBuilder want = new StringBuilder();
-        for (int i = 0; i <= 200; i++) {
-            want.append((char) o.typeAt(i)).append((char) o.valueAt(i));
+        int type = o.ran(2);
+        int value = o.ran(3);
+        if (calls + type + value + 2 > LAST_CALL) {
+            return;
         }
-        StringBuilder got = new StringBuilder();
-        for (int i = 0; i <= 200; i++) {
-            got.append((char) x.typeAt(i)).append((char) x.valueAt(i));
+        for (int i = 0; i <= type; i++) {
+            typeAt(i);
         }
-        check.due(name + " written after " + log, got.toString(), want.toString());
+        for (int i = 0; i <= value; i++) {
+            valueAt(i);
+        }
     }
 }

@@ -62,8 +62,8 @@ final class Check {
     /** The type of the latest run, byte by byte. */
     static String typeOf(BranchTypes x) {
         StringBuilder b = new StringBuilder();
-        for (int i = 0; x.typeAt(i) >= 0; i++) {
-            b.append((char) x.typeAt(i));
+        for (int i = 0, c = x.typeAt(0); c >= 0; i++, c = x.typeAt(i)) {
+            b.append((char) c);
         }
         return b.toString();
     }
@@ -71,8 +71,8 @@ final class Check {
     /** The value of the latest run, byte by byte. */
     static String valueOf(BranchTypes x) {
         StringBuilder b = new StringBuilder();
-        for (int i = 0; x.valueAt(i) >= 0; i++) {
-            b.append((char) x.valueAt(i));
+        for (int i = 0, c = x.valueAt(0); c >= 0; i++, c = x.valueAt(i)) {
+            b.append((char) c);
         }
         return b.toString();
     }

@@ -29,6 +29,7 @@ public final class CheckEdgeTest {
         outerInACase();
         nestedMatches();
         typesOfItsOwn();
+        afterFaults();
         asManyAsNecessary();
         c.end();
     }
@@ -519,15 +520,19 @@ public final class CheckEdgeTest {
 
     /** As many matches in one another as a text can hold. */
     private static void nestedMatches() {
-        BranchTypes x = with("0:i 0:b", "d0i,:i d0u,u,:u");
+        String made = "0:i 0:b";
+        String called = "d0i,:i d0u,u,:u";
+        BranchTypes x = with(made, called);
         String text = "Ma{0".repeat(19) + "7" + "}".repeat(19);
         right(x, 0, text, 39);
         c.due("runs", Check.runs(x, "G0C0"), 2 + 39);
         c.due("its value", Check.valueOf(x), "7.");
         c.due("its nesting", x.ran(1), 21);
+        x = with(made, called);
         wrong(x, 0, "Ma{0".repeat(19) + "T" + "}".repeat(19), 76, 3);
         wrong(x, 0, "Ma{0".repeat(18) + "Ma{17" + "}".repeat(19), 75, 8);
         wrong(x, 0, "Ma{0".repeat(18) + "Ma{}" + "}".repeat(18), 72, 9);
+        x = with(made, called);
         String inner = "Ma{0".repeat(18) + "b" + "}".repeat(18);
         wrong(x, 1, inner, 0, 9);
         right(x, 1, inner.substring(0, inner.length() - 1) + "1b}", 18 * 2 + 2);
@@ -568,12 +573,41 @@ public final class CheckEdgeTest {
         }
     }
 
+    /** A check begins anew, however deep in cases and calls the faults before it were. */
+    private static void afterFaults() {
+        BranchTypes x = with("0:i 0:b", "d0i,:i d0u,u,:u");
+        for (int n = 0; n < 5; n++) {
+            wrong(x, 0, "Ma{0".repeat(8) + "T" + "}".repeat(8), 32, 3);
+        }
+        right(x, 0, "Ma{0".repeat(8) + "7" + "}".repeat(8), 17);
+        right(x, 1, "Ma{0b1b}", 4);
+        runs(x, "G0C0", "i", "7.");
+        x = with("0:i 0:b", "d0i,:i d0u,u,:u");
+        for (int n = 0; n < 40; n++) {
+            wrong(x, 0, "Ma{17}", 3, 8);
+        }
+        right(x, 1, "Ma{0b1b}", 4);
+        BranchTypes y = with("", "i,i,i,:i");
+        for (int n = 0; n < 4; n++) {
+            wrong(y, "G011".repeat(19) + "T", 76, 3);
+        }
+        c.due("a right one", Check.runs(y, "G01G0234G0567"), OPEN);
+        // Seven variables and pairs are made equal for each call.
+        BranchTypes z = with("", ":u pupvpwpuv,:pupvpwpuv u,u,:b");
+        for (int n = 0; n < 15; n++) {
+            c.due("many types made equal", Check.runs(z, "G1".repeat(9) + "G0"), OPEN);
+        }
+        wrong(z, "G21T", 3, 3);
+        c.due("a right one", Check.runs(z, "G212"), OPEN);
+    }
+
     /** "... as many as necessary": a byte can make three types, and a digit those of a signature of 24 bytes. */
     private static void asManyAsNecessary() {
         BranchTypes x = with("0:u 0puv,puw,pvw,:ppuvpwpupvw", ":u i,:" + "p".repeat(10) + "u".repeat(10) + "v u,v,w,:puv");
         c.due("98 pairs", Check.runs(x, "L".repeat(98) + "G0"), DEEP);
         c.due("97 pairs, which are no int", Check.runs(x, "+1" + "R".repeat(96) + "G0"), DEEP);
         wrong(x, "+T" + "R".repeat(96) + "G0", 1, 3);
+        x = with("0:u 0puv,puw,pvw,:ppuvpwpupvw", ":u i,:" + "p".repeat(10) + "u".repeat(10) + "v u,v,w,:puv");
         c.due("many calls, of which one is no int", Check.runs(x, "G1".repeat(3) + "1"), -12);
         c.due("six with long signatures", Check.runs(x, "P" + "PG11".repeat(5) + "1G11"), OPEN);
         c.due("four constructors, of which one is no pair", Check.runs(x, "L".repeat(4) + "PC1P12P1TP2TPC1P12P1TP2TPC1P12P1TP2TPC1P12P1TP2T1"), -12);

@@ -81,9 +81,11 @@ public final class FaultTest {
         run(x, nine + "TTTTTTT", 17, 2);
         run(x, "TC0", 1, 1);
         // The bytes behind a digit count too, and the fault is at what comes first.
+        x = with("0pppuuuu,pppuuuu,:ppuupuu 0:i", "i,:i");
         run(x, "C0".repeat(8) + "}" + "T".repeat(83), 11, 2);
         run(x, "C0".repeat(5) + "}" + "T".repeat(89), 10, 1);
         run(x, "C0".repeat(5) + "C0" + "T".repeat(88), 11, 2);
+        x = with("0pppuuuu,pppuuuu,:ppuupuu 0:i", "i,:i");
         run(x, "M1{0" + "C0".repeat(9) + "}", 21, 2);
         run(x, "M1{0" + "C0".repeat(8) + "0" + "}", 21, 1);
         run(x, "M1{0".repeat(10) + "}", 35, 2);

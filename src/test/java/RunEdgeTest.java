@@ -13,6 +13,8 @@ public final class RunEdgeTest {
         chosenOnly();
         matches();
         scopes();
+        afterCalls();
+        afterEnds();
         parts();
         steps();
         spentAnywhere();
@@ -90,12 +92,13 @@ public final class RunEdgeTest {
     /** "an int with its digits, a minus sign in front if it is negative, and a full stop". */
     private static void digits() {
         BranchTypes x = new BranchTypes();
-        Check.signs(x, "i,:i");
-        Check.bodies(x, 0, "+++aa+aa+++aa+aa+aa");
         String tens = "";
         String zeros = "";
         int steps = 1;
         for (int n = 0; n <= 9; n++) {
+            x = new BranchTypes();
+            Check.signs(x, "i,:i");
+            Check.bodies(x, 0, "+++aa+aa+++aa+aa+aa");
             c.due("10 to the " + n, Check.runs(x, tens + "1"), steps);
             c.due("is", Check.valueOf(x), "1" + zeros + ".");
             Check.runs(x, "-0" + tens + "1");
@@ -113,8 +116,8 @@ public final class RunEdgeTest {
     }
 
     private static void comparisons() {
-        BranchTypes x = new BranchTypes();
         for (int a = 0; a <= 9; a++) {
+            BranchTypes x = new BranchTypes();
             for (int b = 0; b <= 9; b += 3) {
                 c.due("less", Check.runs(x, "<" + a + b), 3);
                 c.due(a + "<" + b, Check.valueOf(x), a < b ? "T" : "F");
@@ -191,6 +194,55 @@ public final class RunEdgeTest {
         run(x, "G0C092C12", 6 + 14 + 14 + 11, 12, "i", "1.");
     }
 
+    /** What a call or a case has added to a scope is gone behind it. */
+    private static void afterCalls() {
+        BranchTypes x = new BranchTypes();
+        Check.constructs(x, 0, "i,:i");
+        Check.signs(x, "d0i,i,:i");
+        Check.signs(x, "i,i,i,:i");
+        Check.bodies(x, 1, "-a-bc");
+        c.due("a match behind a call", Check.bodies(x, 0, "+G1bbbMa{0c}"), 8);
+        run(x, "G0C072", 4 + 8 + 5, 6, "i", "9.");
+        c.due("a match behind two of them", Check.bodies(x, 0, "+G1G1bbb12Ma{0-cb}"), 13);
+        run(x, "G0C072", 4 + 13 + 5 + 5, 7, "i", "8.");
+        c.due("a call behind a match", Check.bodies(x, 0, "+Ma{0c}G1b1b"), 8);
+        run(x, "G0C072", 4 + 8 + 5, 6, "i", "10.");
+        // The scope of the text is empty, but for what a case adds.
+        run(x, "+1MC05{0a}", 6, 4, "i", "6.");
+        run(x, "+G1123MC05{0-aMC09{0-ba}}", 16 + 5, 6, "i", "3.");
+    }
+
+    /** A run begins anew, whatever the runs before it have left where they ended. */
+    private static void afterEnds() {
+        BranchTypes x = new BranchTypes();
+        Check.constructs(x, 0, "i,i,i,:i");
+        Check.signs(x, "i,i,i,:i");
+        Check.signs(x, "d0i,i,i,:i");
+        Check.signs(x, "i,i,i,:i");
+        Check.bodies(x, 0, "G1C0abcbc");
+        Check.bodies(x, 1, "Ma{0G0def}");
+        for (int n = 0; n < 8; n++) {
+            ends(x, "G0123", DEEP);
+            ends(x, "G2G212323", OPEN);
+        }
+        run(x, "+1MC0789{0-a-bc}", 12, 5, "i", "9.");
+        Check.bodies(x, 2, "-a-bc");
+        run(x, "G2G2789G27894", 10 + 15, 5, "i", "4.");
+        // 49 parts are begun with each of these, and 909 steps done with each of those.
+        BranchTypes y = new BranchTypes();
+        Check.signs(y, ":i");
+        for (int n = 0; n < 4; n++) {
+            c.due("open behind 49 parts", Check.runs(y, "P1".repeat(49) + "G0"), OPEN);
+        }
+        run(y, "PP34P56", 7, 3, "ppiipii", "PP3.4.P5.6.");
+        y = hundreds();
+        c.due("909 steps", Check.runs(y, "G1"), 909);
+        c.due("909 steps", Check.runs(y, "G1"), 909);
+        c.due("909 steps", Check.runs(y, "G1"), 909);
+        c.due("their value", Check.valueOf(y), "450.");
+        run(y, "PP34P56", 7, 3, "ppiipii", "PP3.4.P5.6.");
+    }
+
     /** "... evaluated, parts from left to right"; "of a call, the parts and then the body of the function". */
     private static void parts() {
         BranchTypes x = new BranchTypes();
@@ -250,9 +302,13 @@ public final class RunEdgeTest {
         c.due("999 steps", Check.runs(x, most), 999);
         c.due("1000 steps", Check.runs(x, "C0" + most), 1000);
         c.due("are kept", x.ran(0), 1000);
+        x = hundreds();
         ends(x, "LP" + most + "T", SPENT);
         ends(x, "+1" + most, SPENT);
         ends(x, "C0" + "+1" + most, SPENT);
+        x = hundreds();
+        c.due("1000 steps", Check.runs(x, "C0" + most), 1000);
+        ends(x, "+1" + most, SPENT);
         c.due("the value of 1000 steps", Check.valueOf(x), "C0495.");
     }
 
@@ -430,6 +486,9 @@ public final class RunEdgeTest {
         String[] rests = {"PP11T", "PP111", "PP11+99", "PP11-01", "PP11-0+55", "P-01-0+55"};
         String[] ends = {"PP1.1.T", "PP1.1.1.", "PP1.1.18", "PP1.1.-1", "PP1.1.-1", "P-1.-10."};
         for (int n = 0; n < rests.length; n++) {
+            x = new BranchTypes();
+            Check.signs(x, "u,:puu");
+            Check.bodies(x, 0, "Paa");
             Check.runs(x, half + rests[n]);
             String value = Check.valueOf(x);
             c.due("kept of " + bytes[n], x.ran(3), Math.min(200, bytes[n]));
@@ -439,6 +498,9 @@ public final class RunEdgeTest {
             c.due("the last one", x.valueAt(value.length() - 1), value.charAt(value.length() - 1));
             c.due("none behind it", x.valueAt(value.length()), NONE);
         }
+        x = new BranchTypes();
+        Check.signs(x, "u,:puu");
+        Check.bodies(x, 0, "Paa");
         Check.runs(x, "G0".repeat(20) + "7");
         c.due("of millions of bytes", x.ran(3), 200);
         c.due("begins", Check.valueOf(x).substring(0, 24), "PPPPPPPPPPPPPPPPPPPP7.7.");

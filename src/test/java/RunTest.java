@@ -217,6 +217,9 @@ public final class RunTest {
         c.due("the first ones", Check.valueOf(x).substring(0, 11), "PPPPPPP3.3.");
         c.due("there is a last one", x.typeAt(199) > 0 && x.valueAt(199) > 0 ? 1 : 0, 1);
         c.due("and none behind", x.typeAt(200) + x.valueAt(200), 2 * NONE);
+        x = new BranchTypes();
+        Check.signs(x, "u,:puu");
+        Check.bodies(x, 0, "Paa");
         Check.runs(x, "G0G0G0G0G0G0G0G0G0G0G0G0G0G0G0G0G0G0G0G0G0G0G0T");
         c.due("much more of the type", x.ran(2), 200);
         c.due("much more of the value", x.ran(3), 200);

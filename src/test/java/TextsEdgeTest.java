@@ -344,18 +344,20 @@ public final class TextsEdgeTest {
             }
         }
         for (String s : new String[] {"L", "M", "P", "?", "+", "-", "<", "=", "R"}) {
-            run(x, s.repeat(100), 100, 1);
-            run(x, s.repeat(99), 99, 1);
+            BranchTypes y = new BranchTypes();
+            run(y, s.repeat(100), 100, 1);
+            run(y, s.repeat(99), 99, 1);
+            run(y, "", 0, 1);
         }
-        run(x, "", 0, 1);
     }
 
     /** "... or a byte after the end". */
     private static void behindTheEnd() {
         BranchTypes x = new BranchTypes();
-        Check.constructs(x, 0, ":i");
-        Check.signs(x, ":i");
         for (String whole : new String[] {"1", "T", "+12", "?T12", "P12", "LP12", "C0", "G0", "+1MC0{01}", "+1MC0{}"}) {
+            x = new BranchTypes();
+            Check.constructs(x, 0, ":i");
+            Check.signs(x, ":i");
             for (String more : new String[] {"1", "}", "T", ",", " ", "+", "\0", "\177"}) {
                 run(x, whole + more, whole.length(), 1);
             }
@@ -378,6 +380,9 @@ public final class TextsEdgeTest {
         run(x, eight + "LC0", 26, 2);
         c.due("more bytes with seven", Check.runs(x, "PC0".repeat(7) + pairs(13)), 7 + 7 + 25);
         // 100 bytes bear five of them.
+        x = new BranchTypes();
+        Check.constructs(x, 0, ":" + LONG_TYPE);
+        Check.signs(x, ":" + LONG_TYPE);
         run(x, eight + "L".repeat(76), 17, 2);
         run(x, "PC0".repeat(6) + "L".repeat(82), 17, 2);
         run(x, "PC0".repeat(5) + "L".repeat(85), 100, 1);

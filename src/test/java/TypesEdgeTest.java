@@ -15,6 +15,7 @@ public final class TypesEdgeTest {
         depthOfVariables();
         equalArguments();
         equalWholes();
+        equalWholesOfOneArgument();
         madeIntoAClass();
         farClosure();
         closureOfAFullBench();
@@ -179,6 +180,25 @@ public final class TypesEdgeTest {
             x.opens();
             c.due("first arguments alone", x.equates(t[0], t[2]), head == PAIR ? 1 : 2);
             c.due("for " + head, x.same(a, b), head == PAIR ? 0 : 1);
+        }
+    }
+
+    /** Many types have the same first argument, and each of them has its own equal. */
+    private static void equalWholesOfOneArgument() {
+        BranchTypes x = new BranchTypes();
+        int[] t = make(x, RIGID, RIGID, INT, BOOL);
+        int types = x.bench(0);
+        for (int first = 0; first < 2; first++) {
+            for (int head = PAIR; head < RIGID; head++) {
+                x.made(head, t[first], t[2]);
+            }
+            x.made(PAIR, t[first], t[3]);
+            x.made(PAIR, t[first], t[first]);
+        }
+        x.opens();
+        c.due("seven and the two themselves", x.equates(t[0], t[1]), 8);
+        for (int n = types; n < types + 7; n++) {
+            c.due("each with its own", x.shape(n + 7, 4) * 10 + x.shape(n, 5), n * 10 + 2);
         }
     }
 
