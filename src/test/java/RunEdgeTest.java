@@ -25,6 +25,7 @@ public final class RunEdgeTest {
         openWithin();
         latestRun();
         values();
+        preparedRuns();
         twoHundredOfAValue();
         twoHundredOfAType();
         bytesAt();
@@ -473,6 +474,32 @@ public final class RunEdgeTest {
         run(x, "C9-12P1FC84C5", 10, 3, "d1pippibd2pid1i", "C9-1.P1.FC84.C5");
         run(x, "PC71C7T", 5, 3, "pd3id3b", "PC71.C7T");
         run(x, "RPC71C7-09", 8, 5, "d3i", "C7-9.");
+    }
+
+    /** begins: the prepared functions do what their bodies say. */
+    private static void preparedRuns() {
+        BranchTypes x = new BranchTypes();
+        x.begins(1);
+        run(x, "G0C07", 6, 3, "i", "7.");
+        run(x, "G0C1C01", 13, 6, "b", "F");
+        run(x, "G0C1C00", 13, 6, "b", "T");
+        run(x, "G0C2C1C02C03C04", 28, 9, "i", "4.");
+        run(x, "G0C2C1C00C03C04", 28, 9, "i", "3.");
+        run(x, "G0C3C01C1C00", 26, 9, "pib", "P1.T");
+        run(x, "G0C4C3C05C06", 25, 9, "i", "5.");
+        ends(x, "G0C1C1C01", -14);
+        x = new BranchTypes();
+        x.begins(2);
+        run(x, "G0C05", 6, 3, "i", "5.");
+        run(x, "G1C0", 5, 3, "d0p__", "C0");
+        run(x, "G2C0C0", 6, 3, "d0p__", "C0");
+        run(x, "G0G1C0T", 10, 4, "b", "T");
+        x = new BranchTypes();
+        x.begins(3);
+        run(x, "G0C15C0", 7, 3, "i", "5.");
+        run(x, "G1C15C0C12C0", 21, 7, "d0pii", "C17.C0");
+        run(x, "G1C0C0", 6, 3, "d0i", "C0");
+        ends(x, "G0C0", -12);
     }
 
     /** "Only the first 200 bytes of each are kept": of a value of 199, 200, 201 and many more bytes. */

@@ -23,6 +23,7 @@ public final class TextsEdgeTest {
         lettersOfCases();
         tooEarly();
         behindTheEnd();
+        noBlanks();
         tooHeavy();
         heavyCases();
         whicheverIsFirst();
@@ -364,6 +365,24 @@ public final class TextsEdgeTest {
         }
         run(x, "1" + "2".repeat(99), 1, 1);
         run(x, "?T1" + sum(48) + "1", 98, 1);
+    }
+
+    /** "There are no separators or blanks." */
+    private static void noBlanks() {
+        for (String sign : new String[] {" ", ",", "\n", "\t", ";", "(", "\0"}) {
+            BranchTypes x = new BranchTypes();
+            Check.constructs(x, 0, "i,:i");
+            for (String text : new String[] {"+12", "?T12", "C01", "+1MC01{02}"}) {
+                c.due("whole " + text, Check.runs(x, text) > 0 ? 1 : 0, 1);
+                for (int at = 0; at <= text.length(); at++) {
+                    fault(text + " with a sign at " + at, Check.runs(x, text.substring(0, at) + sign + text.substring(at)), at);
+                }
+            }
+            String signature = "u,i,:pud0i";
+            for (int at = 0; at <= signature.length() && !sign.equals(","); at++) {
+                fault(signature + " with a sign at " + at, Check.signs(x, signature.substring(0, at) + sign + signature.substring(at)), at);
+            }
+        }
     }
 
     /** "... the number of all bytes of the text plus the lengths of the signatures up to this one exceeds 240". */
