@@ -791,13 +791,13 @@ public final class BranchTypes {
             return r;
         }
 
-        /** The representative of a root's class. */
+        /** The representative of a root's class; type 0 where there is no class, so that its place can be looked at. */
         int leadAt(int root) {
-            return lead[root] % RANK;
+            return root >= 0 && root < count ? lead[root] % RANK : 0;
         }
 
         int leadOf(int x) {
-            return lead[root(x)] % RANK;
+            return leadAt(root(x));
         }
 
         int headOf(int x) {
@@ -805,11 +805,13 @@ public final class BranchTypes {
         }
 
         int lowestOf(int x) {
-            return lowest[root(x)];
+            int root = root(x);
+            return root == NONE ? NONE : lowest[root];
         }
 
         int sizeOf(int x) {
-            return size[root(x)];
+            int root = root(x);
+            return root == NONE ? 0 : size[root];
         }
 
         /** The type with this head and these arguments by their numbers; a variable is always another one. */
@@ -860,7 +862,7 @@ public final class BranchTypes {
         }
 
         void link(int a, int b) {
-            if (a == b || links >= linked.length) {
+            if (a == b || a < 0 || b < 0 || links >= linked.length) {
                 return;
             }
             int big = size[a] < size[b] ? b : a;
@@ -1530,11 +1532,11 @@ public final class BranchTypes {
                 return value;
             }
             int digit = code.behind(at + 1) + 1;
-            for (int n = 0; n < MAX_TEXT && code.digitAt(digit) != NONE && code.digitAt(digit) != kind[value]; n++) {
+            for (int n = 0; n < MAX_TEXT && code.digitAt(digit) != NONE && code.digitAt(digit) != kindOf(value); n++) {
                 digit = code.behind(digit + 1);
             }
             int scopeBefore = scopeSize;
-            for (int n = 0; n < width[value]; n++) {
+            for (int n = 0; n < widthOf(value); n++) {
                 extendScope(partOf(value, n));
             }
             int outcome = evaluate(code, digit + 1, base, nesting + 1);
@@ -1594,13 +1596,25 @@ public final class BranchTypes {
             return value;
         }
 
+        private boolean has(int value) {
+            return value >= 0 && value < values;
+        }
+
+        private int kindOf(int value) {
+            return has(value) ? kind[value] : NUMBER;
+        }
+
+        private int widthOf(int value) {
+            return has(value) ? width[value] : 0;
+        }
+
         /** What a value without parts holds: its number, or 1 or 0 for true or false. */
         private int contentOf(int value) {
-            return content[MAX_PARTS * value];
+            return has(value) ? content[MAX_PARTS * value] : 0;
         }
 
         private int partOf(int value, int n) {
-            return n < width[value] ? content[MAX_PARTS * value + n] : value;
+            return n >= 0 && n < widthOf(value) ? content[MAX_PARTS * value + n] : value;
         }
 
         private void hold(int value) {
@@ -1611,7 +1625,7 @@ public final class BranchTypes {
         }
 
         private int heldAt(int place) {
-            return place < heldSize ? held[place] : 0;
+            return place >= 0 && place < heldSize ? held[place] : 0;
         }
 
         private void extendScope(int value) {
@@ -1622,7 +1636,7 @@ public final class BranchTypes {
         }
 
         private int scopeAt(int place) {
-            return place < scopeSize ? scope[place] : 0;
+            return place >= 0 && place < scopeSize ? scope[place] : 0;
         }
 
         /** Each value written gives a byte at least, so that no more of them than are kept need be looked at. */
@@ -1634,7 +1648,7 @@ public final class BranchTypes {
                 top--;
                 int written = stack[top];
                 writeHead(written, out);
-                for (int part = width[written] - 1; part >= 0; part--) {
+                for (int part = widthOf(written) - 1; part >= 0; part--) {
                     stack[top] = partOf(written, part);
                     top++;
                 }
@@ -1642,15 +1656,16 @@ public final class BranchTypes {
         }
 
         private void writeHead(int value, Kept out) {
-            if (kind[value] == NUMBER) {
+            int sort = kindOf(value);
+            if (sort == NUMBER) {
                 out.putNumber(contentOf(value));
-            } else if (kind[value] == TRUTH) {
+            } else if (sort == TRUTH) {
                 out.put(contentOf(value) == 0 ? 'F' : 'T');
-            } else if (kind[value] == COUPLE) {
+            } else if (sort == COUPLE) {
                 out.put('P');
             } else {
                 out.put('C');
-                out.put('0' + kind[value]);
+                out.put('0' + sort);
             }
         }
     }
