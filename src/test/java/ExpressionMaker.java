@@ -32,6 +32,8 @@ final class ExpressionMaker {
     final List<Sig> functions = new ArrayList<>();
     private final Random r;
     private final int noise;
+    /** Whether it rather calls functions and constructors, so that there is more to evaluate. */
+    boolean calling;
     private int fresh;
 
     ExpressionMaker(Random r, int noise) {
@@ -168,14 +170,14 @@ final class ExpressionMaker {
         if (noise > 0 && r.nextInt(noise) == 0) {
             return junk(scope, fuel);
         }
-        if (fuel <= 0 || r.nextInt(4) == 0) {
+        if (fuel <= 0 || (!calling && r.nextInt(4) == 0)) {
             String leaf = leaf(goal, scope);
             if (leaf != null) {
                 return leaf;
             }
         }
         if (fuel > -4) {
-            for (int tries = 0; tries < 6; tries++) {
+            for (int tries = calling ? -6 : 0; tries < 6; tries++) {
                 String s = attempt(goal, scope, fuel);
                 if (s != null) {
                     return s;
@@ -204,6 +206,9 @@ final class ExpressionMaker {
         Ty i = ty('i');
         Ty b = ty('b');
         int half = Math.min(fuel / 2, fuel) - 1;
+        if (calling && r.nextInt(5) > 0) {
+            return goal.kind == '0' && r.nextInt(3) > 0 ? construct(goal, scope, fuel) : call(goal, scope, fuel);
+        }
         switch (r.nextInt(10)) {
             case 0:
                 return "?" + make(b, scope, Math.min(half / 2, half)) + make(goal, scope, half) + make(goal, scope, half);
